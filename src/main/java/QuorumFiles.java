@@ -243,7 +243,6 @@ public final class QuorumFiles {
 
     private void applyClose(int f, int units) {
         inodeState[f] = CLOSED;
-        inodeClient[f] = NONE;
         closeUnits[f] = units;
         if (units == 0 && rowLength[f] > 0) {
             rowLength[f]--;
@@ -799,8 +798,9 @@ public final class QuorumFiles {
         }
         int from = first * BLOCKS + b;
         int to = target * BLOCKS + b;
+        int units = unitCount[from];
         putEmptyReplica(target, b, replicaStamp[from]);
-        for (int u = 0; u < unitCount[from]; u++) {
+        for (int u = 0; u < units; u++) {
             putUnit(to, unitValue[from * UNITS_MAX + u]);
         }
     }
