@@ -9,8 +9,14 @@ import java.util.List;
 final class Script {
     static final long NO_UNIT = 10000000000L;
     private static int wrong = 0;
+    private static String sentence = "";
 
     private Script() {
+    }
+
+    /** The sentence of the document that the runs behind this line test; it is told with every wrong answer. */
+    static void sentence(String quoted) {
+        sentence = "\"" + quoted + "\" ";
     }
 
     static void run(String title, String... lines) {
@@ -35,7 +41,7 @@ final class Script {
     static void due(String what, long got, long want) {
         if (got != want) {
             wrong++;
-            System.out.println(what + " answered " + got + ", due is " + want);
+            System.out.println(sentence + what + " answered " + got + ", due is " + want);
         }
     }
 
