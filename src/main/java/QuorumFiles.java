@@ -160,7 +160,8 @@ public final class QuorumFiles {
     }
 
     private void copyLog(int source, int target) {
-        for (int k = 0; k < logLength[source]; k++) {
+        int length = logLength[source];
+        for (int k = 0; k < length; k++) {
             int from = source * LOG_MAX + k;
             int to = target * LOG_MAX + k;
             logEpoch[to] = logEpoch[from];
@@ -169,7 +170,7 @@ public final class QuorumFiles {
             logB[to] = logB[from];
             logC[to] = logC[from];
         }
-        logLength[target] = logLength[source];
+        logLength[target] = length;
         base[target] = base[source];
     }
 
@@ -177,7 +178,8 @@ public final class QuorumFiles {
 
     private void replayLog(int j) {
         forgetInodes();
-        for (int k = 0; k < logLength[j]; k++) {
+        int length = logLength[j];
+        for (int k = 0; k < length; k++) {
             applyRecord(j, k);
         }
     }

@@ -80,7 +80,13 @@ public final class Edges04MakeTest {
 
     private static void fortyRecords() {
         Script.sentence("FULL if by all records that the call writes an UP journal that is IN TOUCH would have more than 40 from its BASE on,");
-        Script.run("the 40th record", Setup.FILE, Setup.pairs(19, 2), "status(2) = 39", "make(0, 0, 1) = 2", "status(2) = 40");
+        String thirtyNine = "takeover(0) = 1\nmake(2, 0, 0) = 1\nmake(-1, 0, 6) = 2\nmake(0, 0, 5) = 3\n" + Setup.pairs(18, 4) + "status(2) = 39\n";
+        Script.run("the 40th record by make", thirtyNine, "make(0, 0, 1) = 4", "status(2) = 40");
+        Script.run("the 40th record by append", thirtyNine, "append(2, 1, 5) = 1", "status(2) = 40");
+        Script.run("the 40th record by close", thirtyNine, "close(2, 1) = 0", "status(2) = 40");
+        Script.run("the 40th record by close for whomever", thirtyNine, "close(-1, 1) = 0", "status(2) = 40");
+        Script.run("the 40th record by remove", thirtyNine, "remove(2) = 0", "status(2) = 40");
+        Script.run("the 40th record by move", thirtyNine, "move(2, 0, 1) = 0", "status(2) = 40");
         Script.run("make", FORTY, "make(0, 0, 1) = FULL", "status(2) = 40", "node(3, 0) = 0");
         Script.run("append", FORTY, "append(2, 1, 5) = FULL", "status(2) = 40", "status(3) = 0", "node(1, 3) = 0");
         Script.run("close", FORTY, "close(2, 1) = FULL", "status(2) = 40", "node(1, 0) = 2");

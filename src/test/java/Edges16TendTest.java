@@ -39,7 +39,7 @@ public final class Edges16TendTest {
         Script.run("the only UP data node has the GOOD one", CLOSED, Setup.down(0, 1, 3, 4), "tend(-1) = NONE", "status(3) = 3");
         String two = CLOSED + "make(2, 0, 1) = 2\nappend(2, 2, 20) = 1\npass(2) = 2\nclose(2, 2) = 0\nblock(2, 0, 2) = 25\n";
         Script.run("the least", two, Setup.down(0), "tend(-1) = 0", "tend(-1) = 1", "tend(-1) = NONE", "status(3) = 8");
-        Script.run("the least that needs it", two, Setup.down(3), "tend(-1) = 1", "tend(-1) = NONE");
+        Script.run("the least that needs it", two, Setup.down(3), "tend(-1) = 1", "replica(1, 1, *) = 2052 1", "tend(-1) = NONE");
         Script.run("the least that can have it", two, Setup.down(2, 3, 4), "block(1, 0, 2) = 3", "tend(-1) = 1", "block(2, 0, 2) = 3", "tend(-1) = NONE");
     }
 
@@ -57,6 +57,9 @@ public final class Edges16TendTest {
         Script.sentence("gets a replica (in place of one of this block) with stamp and units of the FIRST: the block's number, NONE if there is none.");
         Script.run("stamp and units", CLOSED, Setup.down(0, 1), "tend(-1) = 0", "replica(3, 0, *) = 2049 2", Setup.down(2), "read(1, 0) = 10", "read(1, 1) = 11",
             "read(1, 2) = NOUNIT");
+        Script.run("of another block than 0", CLOSED, "make(2, 0, 1) = 2", "append(2, 2, 20) = 1", "append(2, 2, 21) = 2", "pass(4) = 4", "close(2, 2) = 0",
+            "block(2, 0, *) = 1 2052 25 2", Setup.down(0, 3), "tend(-1) = 0", "tend(-1) = 1", "replica(1, 1, *) = 2052 2", Setup.down(4), "read(2, 0) = 20",
+            "read(2, 1) = 21", "read(1, 1) = 11");
         Script.run("8 units", Setup.FILE, Setup.FILL, "close(2, 1) = 0", Setup.down(0, 1, 4), "tend(-1) = 0", "replica(3, 0, *) = 2049 8", Setup.down(2),
             Script.times(8, "read(1, @) = 5@"));
         Script.run("in place of one left behind", Setup.FILE, Setup.units(3), "pass(6) = 6", Setup.down(0, 3, 4), "append(2, 1, 20) = 4", "pass(1) = 1",

@@ -80,6 +80,13 @@ public final class EdgesTermsTest {
 
         Script.sentence("the epoch becomes the greatest PROMISE of the UP journals and 1, and these promise it;");
         Script.run("the first epoch", "takeover(0) = 1", Script.times(3, "journal(@, -1, 1) = 1"));
+        for (int j = 0; j < 3; j++) {
+            int late = (j + 1) % 3;
+            int other = (j + 2) % 3;
+            Script.run("journal " + j + " has the greatest promise", "power(1, " + late + ", down) = true", "takeover(0) = 1", "takeover(0) = 2",
+                "power(1, " + late + ", up) = true", "power(1, " + other + ", down) = true", "takeover(0) = 3", "journal(" + j + ", -1, 1) = 3",
+                "journal(" + late + ", -1, 1) = 3", "journal(" + other + ", -1, 1) = 2");
+        }
         Script.run("an UP journal with a lesser promise", "power(1, 0, down) = true", "takeover(0) = 1", "takeover(0) = 2", "power(1, 0, up) = true",
             "power(1, 2, down) = true", "takeover(0) = 3", "journal(0, -1, 1) = 3", "journal(1, -1, 1) = 3", "journal(2, -1, 1) = 2");
         Script.run("a DOWN journal promises nothing", "power(1, 1, down) = true", "takeover(0) = 1", "journal(1, -1, 1) = 0");
@@ -113,6 +120,9 @@ public final class EdgesTermsTest {
             "power(1, 0, down) = true", "takeover(0) = 2", "journal(1, -1, *) = 1 2 1 0", "journal(2, -1, *) = 1 2 1 0", "journal(0, -1, *) = 1 1 0 1");
 
         Script.sentence("all UP journals have this log, with its BASE, and are IN TOUCH then, the others are not.");
+        Script.run("all numbers of all its records", "power(1, 2, down) = true", "takeover(0) = 1", "make(3, 0, 7) = 1", "append(3, 1, 5) = 1", "pass(2) = 2",
+            "close(3, 1) = 0", "move(1, 0, 6) = 0", "power(1, 2, up) = true", "takeover(0) = 2", "journal(2, 0, *) = 1 0 1 7 3",
+            "journal(2, 1, *) = 1 1 1 0 0", "journal(2, 2, *) = 1 3 1 1 0", "journal(2, 3, *) = 1 5 1 6 0", "journal(2, 4, 0) = NONE");
         Script.run("with its base", "takeover(0) = 1", "make(3, 0, 7) = 1", "power(1, 0, down) = true", "make(3, 0, 6) = 2", "fold() = 2",
             "power(1, 0, up) = true", "takeover(0) = 2", "journal(0, -1, *) = 2 2 1 2", "journal(0, 0, 0) = NONE");
         Script.run("one that is DOWN is in touch no more", "takeover(0) = 1", "make(3, 0, 7) = 1", "power(1, 2, down) = true", "journal(2, -1, 2) = 1",

@@ -5,7 +5,9 @@ import java.lang.reflect.Method;
 import java.lang.reflect.Modifier;
 import java.nio.file.Files;
 import java.nio.file.Path;
+import java.util.Map;
 import java.util.Set;
+import java.util.TreeMap;
 import java.util.TreeSet;
 import java.util.regex.Matcher;
 import java.util.regex.Pattern;
@@ -98,5 +100,31 @@ public final class FaceTest {
         }
         Matcher nested = Pattern.compile("\\b(?!if\\b|for\\b|while\\b|switch\\b|return\\b)[a-z]\\w*\\([^()]*\\b[a-z]\\w*\\(").matcher(code);
         isSo("no call among another call's arguments", !nested.find());
+        calls(code);
+    }
+
+    private static void calls(String code) {
+        Map<String, String> bodies = new TreeMap<>();
+        Matcher method = Pattern.compile("(?ms)^    (?:public|private) [a-z]+ (\\w+)\\([^)]*\\) \\{\n(.*?)^    \\}$").matcher(code);
+        while (method.find()) {
+            bodies.put(method.group(1), method.group(2));
+            isSo(method.group(1) + " is short", method.group(2).lines().count() <= 60);
+        }
+        isSo("all methods are found", bodies.size() == QuorumFiles.class.getDeclaredMethods().length);
+        for (String name : bodies.keySet()) {
+            isSo(name + " calls at most six deep", depth(name, bodies, 0) <= 6);
+        }
+    }
+
+    // A recursion would go on without an end, so it stops where the depth is wrong already.
+    private static int depth(String name, Map<String, String> bodies, int above) {
+        int deepest = 0;
+        Matcher call = Pattern.compile("\\b([a-z]\\w*)\\(").matcher(bodies.get(name));
+        while (above <= 6 && call.find()) {
+            if (bodies.containsKey(call.group(1))) {
+                deepest = Math.max(deepest, depth(call.group(1), bodies, above + 1));
+            }
+        }
+        return 1 + deepest;
     }
 }
