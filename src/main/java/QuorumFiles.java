@@ -601,7 +601,8 @@ public final class QuorumFiles {
 
     private boolean isInRow(int b) {
         for (int f = 0; f < INODES; f++) {
-            for (int k = 0; k < rowLength[f]; k++) {
+            int length = rowLength[f];
+            for (int k = 0; k < length; k++) {
                 if (rowBlock[f * ROW_MAX + k] == b) {
                     return true;
                 }

@@ -52,6 +52,12 @@ public final class Edges06PassTest {
             + Setup.WITHOUT_JOURNAL_0 + "takeover(0) = 2\n";
     }
 
+    // Tended while it was closed, the block has a fourth replica when the CLOSE is given up; the FIRST has three units more.
+    private static String fourGood() {
+        return Setup.CLOSE_HOLDS + Setup.down(2) + "tend(-1) = 0\n" + Setup.up(2) + Setup.GIVEN_UP + "block(1, 0, 2) = 15\n"
+            + Script.times(3, "append(2, 1, 2@) = any");
+    }
+
     private static void whichReplica() {
         Script.sentence("of these replicas the one on the least data node gets the unit of that nearest one which it lacks first.");
         Script.run("the least data node", Setup.FILE, Setup.units(3), "pass(2) = 2", "replica(1, 0, 1) = 2", "replica(2, 0, 1) = 0", "pass(1) = 1",
@@ -60,6 +66,11 @@ public final class Edges06PassTest {
             "pass(1) = 1", "read(1, 1) = 11", "read(1, 2) = NOUNIT", "pass(1) = 1", "read(1, 2) = 12");
         Script.run("from the nearest lower one", Setup.FILE, Setup.units(3), "pass(1) = 1", Setup.down(0), "pass(32) = 1", "replica(2, 0, 1) = 1",
             Setup.down(1), "read(1, 0) = 10");
+        Script.run("from the nearest lower one, not from the FIRST, which has fewer units", fourGood(), Setup.down(1), "pass(4) = 4", "replica(2, 0, 1) = 5",
+            "replica(3, 0, 1) = 3", Setup.up(1), Setup.down(0), "block(1, 0, *) = 0 2049 14 2", "pass(1) = 1", "replica(3, 0, 1) = 4", "pass(32) = 1",
+            "replica(3, 0, 1) = 5", "replica(1, 0, 1) = 2", Setup.down(1, 2), "read(1, 3) = 21", "read(1, 4) = 22");
+        Script.run("four replicas, one behind the other", fourGood(), "pass(3) = 3", "replica(1, 0, 1) = 5", "replica(2, 0, 1) = 2", "pass(32) = 6",
+            "block(1, 0, *) = 0 2049 15 5");
         Script.run("the nearest one is further away", Setup.FILE, Setup.units(3), Setup.down(1), "pass(32) = 3", "replica(2, 0, 1) = 3",
             "replica(1, 0, 1) = 0");
         Script.run("from the first to the last data node", Setup.FILE, "append(2, 1, 5) = 1", "make(0, 0, 1) = 2", Setup.down(1, 2, 3), "append(0, 2, 6) = 1",

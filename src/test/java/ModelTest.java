@@ -1,4 +1,6 @@
+import java.util.ArrayDeque;
 import java.util.ArrayList;
+import java.util.Deque;
 import java.util.List;
 import java.util.Map;
 import java.util.Random;
@@ -13,19 +15,28 @@ public final class ModelTest {
     private static final int CALLS = 420;
 
     // How often a run draws each call; the runs differ in how much they switch off.
-    private static final String[] NAMES = {"power", "takeover", "make", "append", "pass", "close", "remove", "move", "fold", "tend"};
+    // "strand" stands for a row of calls that ends in a takeover which gives a record up that held before.
+    private static final String[] NAMES =
+        {"power", "takeover", "make", "append", "pass", "close", "remove", "move", "fold", "tend", "strand"};
     private static final int[][] WEIGHTS = {
-        {4, 1, 6, 60, 14, 3, 2, 2, 3, 4},
-        {12, 4, 8, 40, 12, 5, 4, 3, 4, 8},
-        {30, 10, 10, 30, 10, 6, 4, 4, 3, 6},
-        {2, 1, 30, 8, 3, 10, 12, 14, 2, 2},
-        {1, 0, 10, 90, 40, 1, 1, 1, 6, 1},
-        {9, 3, 12, 30, 12, 9, 8, 2, 0, 9}};
+        {4, 1, 6, 60, 14, 3, 2, 2, 3, 4, 0},
+        {12, 4, 8, 40, 12, 5, 4, 3, 4, 8, 0},
+        {30, 10, 10, 30, 10, 6, 4, 4, 3, 6, 0},
+        {2, 1, 30, 8, 3, 10, 12, 14, 2, 2, 0},
+        {1, 0, 10, 90, 40, 1, 1, 1, 6, 1, 0},
+        {9, 3, 12, 30, 12, 9, 8, 2, 0, 9, 0},
+        {6, 0, 4, 30, 10, 2, 1, 1, 2, 6, 4}};
+    private static final String[] WRITERS = {"make", "append", "close", "close", "remove", "move"};
+
+    /** A call to come; its arguments are drawn when it comes if there are none here. */
+    private record Planned(String name, int[] arguments) {
+    }
 
     private final Random random;
     private final QuorumFiles files = new QuorumFiles();
     private final Model model = new Model();
     private final List<String> told = new ArrayList<>();
+    private final Deque<Planned> planned = new ArrayDeque<>();
 
     private ModelTest(long seed) {
         random = new Random(seed);
@@ -49,8 +60,9 @@ public final class ModelTest {
 
     private String play(int[] weights, Map<String, Integer> kinds) {
         for (int n = 0; n < CALLS; n++) {
-            String name = n == 0 || wantsMaster() ? "takeover" : draw(weights);
-            int[] a = arguments(name);
+            Planned next = next(n, weights);
+            String name = next.name();
+            int[] a = next.arguments() == null ? arguments(name) : next.arguments();
             String call = name + "(" + a[0] + ", " + a[1] + ", " + a[2] + ")";
             long got = ofFiles(name, a);
             long want = ofModel(name, a);
@@ -62,6 +74,68 @@ public final class ModelTest {
             }
         }
         return compareAll();
+    }
+
+    private Planned next(int n, int[] weights) {
+        if (planned.isEmpty()) {
+            String name = n == 0 || wantsMaster() ? "takeover" : draw(weights);
+            if (!name.equals("strand")) {
+                return new Planned(name, null);
+            }
+            strand();
+        }
+        return planned.remove();
+    }
+
+    // Journal a gets a record alone, then b another one; that of a holds for a while, and is given up for that of b.
+    private void strand() {
+        int a = random.nextInt(3);
+        int b = (a + 1 + random.nextInt(2)) % 3;
+        int c = 3 - a - b;
+        planMasters();
+        planJournals(1 << a);
+        planWriter();
+        planJournals(1 << b | 1 << c);
+        planTakeover();
+        planJournals(1 << b);
+        planWriter();
+        planJournals(1 << a | 1 << c);
+        planTakeover();
+        for (int n = random.nextInt(8); n > 0; n--) {
+            planIdle();
+        }
+        planJournals(random.nextInt(3) == 0 ? 1 << b | 1 << c : 7);
+        planTakeover();
+    }
+
+    private void planMasters() {
+        planned.add(new Planned("power", new int[] {2, 0, 1}));
+        planned.add(new Planned("power", new int[] {2, 1, 1}));
+    }
+
+    private void planJournals(int up) {
+        for (int j = 0; j < 3; j++) {
+            planned.add(new Planned("power", new int[] {1, j, up >> j & 1}));
+        }
+    }
+
+    private void planWriter() {
+        planned.add(new Planned(WRITERS[random.nextInt(WRITERS.length)], null));
+    }
+
+    private void planTakeover() {
+        planned.add(new Planned("takeover", new int[] {random.nextInt(2), 0, 0}));
+    }
+
+    // Nothing here writes a record.
+    private void planIdle() {
+        switch (random.nextInt(5)) {
+            case 0: planned.add(new Planned("pass", null)); break;
+            case 1: planned.add(new Planned("fold", null)); break;
+            case 2: planned.add(new Planned("tend", new int[] {-1, 0, 0})); break;
+            case 3: planned.add(new Planned("tend", null)); break;
+            default: planned.add(new Planned("power", new int[] {0, random.nextInt(5), random.nextInt(2)})); break;
+        }
     }
 
     // Without a master next to nothing happens, so a run comes back to one soon.
