@@ -87,20 +87,22 @@ public final class ModelTest {
         return planned.remove();
     }
 
-    // Journal a gets a record alone, then b another one; that of a holds for a while, and is given up for that of b.
+    // Journal a gets a record alone, then b another one, perhaps twice; what a has holds for a while, and is given up for what b has.
     private void strand() {
         int a = random.nextInt(3);
         int b = (a + 1 + random.nextInt(2)) % 3;
         int c = 3 - a - b;
         planMasters();
-        planJournals(1 << a);
-        planWriter();
-        planJournals(1 << b | 1 << c);
-        planTakeover();
-        planJournals(1 << b);
-        planWriter();
-        planJournals(1 << a | 1 << c);
-        planTakeover();
+        for (int rounds = 1 + random.nextInt(2); rounds > 0; rounds--) {
+            planJournals(1 << a);
+            planWriter();
+            planJournals(1 << b | 1 << c);
+            planTakeover();
+            planJournals(1 << b);
+            planWriter();
+            planJournals(1 << a | 1 << c);
+            planTakeover();
+        }
         for (int n = random.nextInt(8); n > 0; n--) {
             planIdle();
         }
