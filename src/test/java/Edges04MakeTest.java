@@ -160,6 +160,9 @@ public final class Edges04MakeTest {
             "remove(1) = REFUSED", "move(1, 0, 0) = REFUSED", "status(0) = 0", "journal(1, -1, 2) = 1");
         Script.run("FULL before LOST", FORTY, Setup.ONLY_JOURNAL_0, "make(0, 0, 1) = FULL", "append(2, 1, 5) = FULL", "close(2, 1) = FULL",
             "remove(2) = FULL", "move(2, 0, 1) = FULL", "status(0) = 0", "journal(1, -1, 2) = 1");
+        Script.run("FULL before LOST with two records, though only the second has no room", Setup.FILE, "append(2, 1, 5) = 1", "pass(2) = 2",
+            "make(-1, 0, 6) = 2", Setup.pairs(18, 3), "status(2) = 39", Setup.ONLY_JOURNAL_0, "close(-1, 1) = FULL", "status(0) = 0",
+            "replica(0, 0, *) = 2049 1", "journal(1, -1, 2) = 1");
         Script.run("FULL before LOST without an absent inode", ALL_INODES, Setup.ONLY_JOURNAL_0, "make(0, 0, 7) = FULL", "status(0) = 0",
             "journal(1, -1, 2) = 1");
         Script.run("LOST with no UP journal, however many records there are", FORTY, Setup.ONLY_JOURNAL_0, "power(1, 0, down) = true", "make(0, 0, 1) = LOST");
